@@ -1,10 +1,16 @@
 import java.util.ArrayList;
+import java.util.Arrays;
 import java.util.List;
 import java.util.NoSuchElementException;
 import java.util.Random;
 
 /** Runs of chosen-by-lot calls (always the same lots), each answer held against PlainBook's. */
 public final class RandomRunsTest {
+    private static final int MOST_CALLS = 512;
+    private static final int FIRST_QUESTION = 5;
+    private static final int COUNT = 5;
+    private static final int FIRST_CHANGE = 11;
+    private static final int PAGE = 19;
     private static final int THROWN = Integer.MIN_VALUE;
     private static final String[] CALLS = {
         "child", "consent", "picture", "face", "set", "count", "told", "name", "seen", "proof", "shows",
@@ -20,11 +26,13 @@ public final class RandomRunsTest {
     private final int mostWorth;
     private final int wrongInHundred;
     private final List<String> told = new ArrayList<>();
+    private final boolean ofPages;
     private boolean failed;
 
     private RandomRunsTest(int seed) {
         lots = new Random(seed);
-        mostPictures = 2 + lots.nextInt(seed % 10 == 0 ? 13 : 9);
+        ofPages = seed % 2 == 0;
+        mostPictures = ofPages ? 5 + lots.nextInt(10) : 2 + lots.nextInt(seed % 9 == 0 ? 13 : 9);
         mostSize = new int[] {12, 12, 7, 5, 3, 1}[lots.nextInt(6)];
         mostWorth = new int[] {100, 100, 3, 0}[lots.nextInt(4)];
         wrongInHundred = new int[] {0, 2, 10}[lots.nextInt(3)];
@@ -56,29 +64,62 @@ public final class RandomRunsTest {
         for (int i = 0; i < mostPictures; i++) {
             call("picture");
         }
-        int faces = lots.nextInt(mostPictures * 5 + 1);
+        int faces = lots.nextInt(mostPictures * (ofPages ? 2 : 7) + 1);
         for (int i = 0; i < faces; i++) {
             call("face");
         }
-        for (int i = 0; i < 400 - children - faces - mostPictures && !failed; i++) {
-            int lot = lots.nextInt(100);
-            call(lot < 60 ? CALLS[5 + lots.nextInt(18)] : lot < 75 ? "late" : lot < 85 ? "drop"
-                : lot < 93 ? CALLS[lots.nextInt(5)] : "set");
+        while (told.size() < MOST_CALLS && !failed) {
+            call(ofPages ? aboutPages() : aboutChoice());
+        }
+    }
+
+    private String aboutChoice() {
+        int lot = lots.nextInt(100);
+        return lot < 70 ? CALLS[FIRST_QUESTION + lots.nextInt(CALLS.length - FIRST_QUESTION)]
+            : lot < 90 ? "set" : CALLS[lots.nextInt(FIRST_QUESTION)];
+    }
+
+    private String aboutPages() {
+        int lot = lots.nextInt(100);
+        if (plain.count(4) == 0) {
+            return lot < 40 ? "choose" : lot < 90 ? "lay" : CALLS[lots.nextInt(CALLS.length)];
+        }
+        return lot < 45 ? "late" : lot < 70 ? "drop" : lot < 72 ? "lay" : lot < 90 ? "told"
+            : CALLS[lots.nextInt(CALLS.length)];
+    }
+
+    /** After a call that lays or chooses: the whole choice and all pages. */
+    private void compareState() {
+        int n = plain.count(4);
+        compare(COUNT, 2);
+        compare(COUNT, 4);
+        for (int page = 0; page < n; page++) {
+            compare(PAGE, page);
         }
     }
 
     private void call(String name) {
         int which = List.of(CALLS).indexOf(name);
-        if (failed || name.equals("picture") && plain.count(1) >= mostPictures && lots.nextInt(4) != 0) {
+        if (name.equals("picture") && plain.count(1) >= mostPictures && lots.nextInt(4) != 0) {
             return;
         }
         int[] a = new int[PARAMETERS[which]];
         for (int i = 0; i < a.length; i++) {
             a[i] = argument(name, i, a);
         }
+        compare(which, a);
+        if (which >= FIRST_CHANGE && which != PAGE) {
+            compareState();
+        }
+    }
+
+    private void compare(int which, int... a) {
+        if (failed || told.size() >= MOST_CALLS) {
+            return;
+        }
         int got = answer(which, a, true);
         int due = answer(which, a, false);
-        told.add("  " + name + java.util.Arrays.toString(a) + " answered " + got + ", due is " + due);
+        told.add("  " + CALLS[which] + Arrays.toString(a) + " answered " + got + ", due is " + due);
         failed = got != due;
     }
 
