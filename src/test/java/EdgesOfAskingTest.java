@@ -17,6 +17,7 @@ public final class EdgesOfAskingTest {
         cutOverTheEdges();
         cutIsLeastBox();
         touchingEdges();
+        touchingWideCut();
         touchingPoints();
         aroundAndInside();
         betweenFaces();
@@ -146,6 +147,20 @@ public final class EdgesOfAskingTest {
         cut("one point out at two sides", b, 35, 49, 51, 65);
         b.consent(3, 6);
         cut("without one that may not", b, 35, 50, 50, 65);
+        cut("each side of another face, told in one order", sides(0, 1, 2, 3), 5, 11, 93, 87);
+        cut("in another order", sides(3, 2, 1, 0), 5, 11, 93, 87);
+        cut("and another", sides(2, 0, 3, 1), 5, 11, 93, 87);
+    }
+
+    /** Four faces, each of which makes one side of the cut, told in this order. */
+    private static Book sides(int... order) {
+        int[][] faces = {{8, 50, 3}, {40, 13, 2}, {89, 30, 4}, {60, 82, 5}};
+        Book b = Book.withChildren(4);
+        b.picture(0, 1, 1);
+        for (int c : order) {
+            b.face(0, c, faces[c][0], faces[c][1], faces[c][2]);
+        }
+        return b;
     }
 
     /** Child 0's face is the cut 40 .. 60 both ways; child 1, who may not be seen, is at x, y. */
@@ -180,6 +195,32 @@ public final class EdgesOfAskingTest {
             }
             good("past a corner both ways", 1, other(61 + r, 61 + r, r));
             good("past another corner both ways", 1, other(39 - r, 61 + r, r));
+        }
+    }
+
+    /** The cut is 20 .. 40 by 70 .. 74; child 2, who may not be seen, is told first, and is a point. */
+    private static Book besideWideCut(int x, int y) {
+        Book b = Book.withChildren(3);
+        b.consent(2, 6);
+        b.picture(0, 1, 1);
+        b.face(0, 2, x, y, 0);
+        b.face(0, 0, 22, 72, 2);
+        b.face(0, 1, 38, 72, 2);
+        return b;
+    }
+
+    private static void touchingWideCut() {
+        edges.words(Edges.TERMS, "no FACE of another CHILD touches the CUT (has a point in it, edges too)");
+        for (int x = 18; x <= 42; x++) {
+            for (int y = 68; y <= 76; y++) {
+                boolean touches = x >= 20 && x <= 40 && y >= 70 && y <= 74;
+                edges.due("at " + x + ", " + y, touches ? 0 : 3, besideWideCut(x, y).told(0, 5));
+            }
+        }
+        for (int far : new int[] {0, 30, 50, 99}) {
+            edges.due("far to a side", 3, besideWideCut(99 - far / 2, far).told(0, 5));
+            edges.due("above", 3, besideWideCut(30, far / 2).told(0, 5));
+            edges.due("beside", 3, besideWideCut(50 + far / 3, 72).told(0, 5));
         }
     }
 

@@ -16,11 +16,13 @@ public final class EdgesOfChoiceTest {
         chooseRefused();
         chooseTakesPagesAway();
         lowToHigh();
+        lowToHighOfEachChild();
         whoCounts();
         wrongWithNothing();
         wrongLeastFirst();
         bestOfNone();
         bestAtTheBounds();
+        bestOfMostWorth();
         bestOfEqualWorth();
         bestLeavesOutWorthless();
         bestTakesPagesAway();
@@ -165,6 +167,44 @@ public final class EdgesOfChoiceTest {
         }
     }
 
+    /** Each of the 16 children is in 13 pictures, with another one that is in the 14th too. */
+    private static void lowToHighOfEachChild() {
+        edges.words(Edges.TERMS, "It FITS, if each of these CHILDREN is SEEN in LOW to HIGH of it.");
+        for (int child = 0; child < 16; child++) {
+            Book b = Book.withChildren(16);
+            for (int p = 0; p < 14; p++) {
+                b.show(1, p < 13 ? new int[] {child, child ^ 1} : new int[] {child ^ 1});
+            }
+            for (int k = 0; k <= 13; k++) {
+                edges.due("child " + child + " just " + k + " times", binomial(13, k), justSo(b, k, child));
+                bounded(b, 0, k);
+                edges.due("child " + child + ", HIGH " + k, k, b.best());
+                bounded(b, k, 14);
+                edges.due("child " + child + ", LOW " + k, 14, b.best());
+            }
+            bounded(b, 14, 14);
+            edges.due("child " + child + " is in 13 only", NONE, b.best());
+            edges.due("child " + child + " is in 13 only", NONE, b.mend());
+            edges.due("child " + child + " is in 13 only", 0, b.choices());
+        }
+    }
+
+    /** How many choices fit in which each is seen just k times; NONE if mend finds none of them. */
+    private static int justSo(Book b, int k, int child) {
+        bounded(b, k, k);
+        int alone = b.choices();
+        int n = b.mend() < 0 ? NONE : b.seen(child);
+        return n == k && b.seen(child ^ 1) == k ? alone : NONE;
+    }
+
+    private static int binomial(int n, int k) {
+        int ways = 1;
+        for (int i = 0; i < k; i++) {
+            ways = ways * (n - i) / (i + 1);
+        }
+        return ways;
+    }
+
     private static void whoCounts() {
         edges.words(Edges.TERMS, "of each CHILD that is in a GOOD PICTURE's SEEN");
         Book b = Book.withChildren(4).show(5, 0);
@@ -250,6 +290,32 @@ public final class EdgesOfChoiceTest {
         edges.due("LOW 14 of 13", NONE, few.best());
     }
 
+    private static void bestOfMostWorth() {
+        edges.words(Edges.TERMS, "the one with the greatest sum of WORTH");
+        Book b = Book.withChildren(2).show(10, 0).show(3, 0).show(5, 1);
+        edges.due("the first of child 0's, and child 1's", 15, bounded(b, 0, 1).best());
+        edges.due("so", 5, b.count(2));
+        Book many = twelveOrTwo(6, 5);
+        edges.due("a point more, though of ten pictures more", 12, many.best());
+        edges.due("the twelve", 4095, many.count(2));
+        Book few = twelveOrTwo(6, 6);
+        edges.due("equal: the two", 12, few.best());
+        edges.due("the two", 12288, few.count(2));
+    }
+
+    /**
+     * Just two choices fit: twelve pictures of worth 1, or two more. Children 12 and 13 keep them from being
+     * mixed: each is in one of the two, and in one of the twelve that the other of the two stands for.
+     */
+    private static Book twelveOrTwo(int oneWorth, int otherWorth) {
+        Book b = Book.withChildren(14).show(1, 0, 13);
+        for (int c = 1; c < 12; c++) {
+            b.show(1, c == 6 ? new int[] {6, 12} : new int[] {c});
+        }
+        b.show(oneWorth, 0, 1, 2, 3, 4, 5, 12).show(otherWorth, 6, 7, 8, 9, 10, 11, 13);
+        return bounded(b, 1, 1);
+    }
+
     private static void bestOfEqualWorth() {
         edges.words(Edges.TERMS, "of equal ones the fewest PICTURES; then the least number as bits");
         Book fewest = Book.withChildren(2).show(5, 0).show(5, 1).show(10, 0, 1);
@@ -264,9 +330,17 @@ public final class EdgesOfChoiceTest {
         bounded(bits, 0, 1);
         edges.due("20 in two ways", 20, bits.best());
         edges.due("6 is less than 9", 6, bits.count(2));
+        Book apart = Book.withChildren(5).show(20, 0, 4).show(20, 1).show(20, 2, 3);
+        for (int p = 3; p < 12; p++) {
+            apart.show(0, 0);
+        }
+        apart.show(30, 0, 1, 3).show(30, 2, 4);
+        edges.due("60 in two ways", 60, bounded(apart, 1, 1).best());
+        edges.due("the last two, not the first three", 12288, apart.count(2));
         Book last = bounded(oneChild(14, 100), 0, 1);
-        edges.due("one of 14", 100, last.best());
-        edges.due("the least", 1, last.count(2));
+        last.choose(2);
+        edges.due("one of 14, another being chosen", 100, last.best());
+        edges.due("the least all the same", 1, last.count(2));
     }
 
     private static void bestLeavesOutWorthless() {
@@ -361,6 +435,13 @@ public final class EdgesOfChoiceTest {
         bounded(bits, 1, 1);
         edges.due("two come", 2, bits.mend());
         edges.due("6 is less than 9", 6, bits.count(2));
+        Book many = twelveOrTwo(6, 5);
+        edges.due("two choices fit", 2, many.choices());
+        edges.due("two come, though twelve have more worth", 2, many.mend());
+        edges.due("the two", 12288, many.count(2));
+        many.choose(4095 & ~1);
+        edges.due("one comes", 1, many.mend());
+        edges.due("the twelve", 4095, many.count(2));
         bounded(bits, 1, 1).choose(9);
         edges.due("what fits is nearer than any", 0, bits.mend());
         edges.due("though of the greater number", 9, bits.count(2));
@@ -414,10 +495,8 @@ public final class EdgesOfChoiceTest {
 
     private static void choicesAtTheBounds() {
         edges.words(17, "How many CHOICES FIT.");
-        int ways = 1;
         for (int k = 0; k <= 14; k++) {
-            edges.due("just " + k + " of 14", ways, bounded(oneChild(14, 1), k, k).choices());
-            ways = ways * (14 - k) / (k + 1);
+            edges.due("just " + k + " of 14", binomial(14, k), bounded(oneChild(14, 1), k, k).choices());
         }
         edges.due("all sets", 16384, oneChild(14, 1).choices());
         edges.due("all but the empty one", 16383, bounded(oneChild(14, 1), 1, 14).choices());

@@ -31,6 +31,7 @@ public final class EdgesOfPagesTest {
         lateWithLastBelowThePages();
         lateOnOnePage();
         lateJustFull();
+        latePointsWouldDo();
         lateFewestPages();
         lateLeastOfEqualPages();
         lateInTheirOrder();
@@ -384,6 +385,22 @@ public final class EdgesOfPagesTest {
             edges.due(size + ": 13 points", 1, more.late(1));
             edges.pages(size + ": 13 points", more, 1, 2);
         }
+    }
+
+    private static void latePointsWouldDo() {
+        edges.words(23, "if there is none, it has a PAGE more, the last one: how many PAGES were changed.");
+        Book b = Book.ofSizes(7, 7, 8);
+        b.choose(3);
+        b.lay();
+        edges.due("the points would do, but not the sizes", 1, b.late(2));
+        edges.pages("a page more", b, 1, 2, 4);
+        Supplier<Book> sevens = () -> {
+            Book c = Book.ofSizes(7, 7, 7, 7);
+            c.choose(7);
+            c.lay();
+            return withLast(c, 3);
+        };
+        edges.refused("the points would do, but not the sizes", sevens, c -> c.late(3));
     }
 
     private static void lateFewestPages() {
