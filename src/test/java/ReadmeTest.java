@@ -6,6 +6,7 @@ import java.net.URLClassLoader;
 import java.nio.file.Files;
 import java.nio.file.Path;
 import java.util.ArrayList;
+import java.util.Comparator;
 import java.util.List;
 import java.util.Set;
 import java.util.TreeSet;
@@ -126,12 +127,11 @@ public final class ReadmeTest {
     }
 
     private static void delete(Path folder) throws IOException {
-        try (Stream<Path> parts = Files.list(folder)) {
-            for (Path part : parts.toList()) {
+        try (Stream<Path> parts = Files.walk(folder)) {
+            for (Path part : parts.sorted(Comparator.reverseOrder()).toList()) {
                 Files.delete(part);
             }
         }
-        Files.delete(folder);
     }
 
     private static void checkTestsNamed(String readme) throws IOException {
@@ -175,16 +175,27 @@ public final class ReadmeTest {
         return rows;
     }
 
-    /** All but .ci/run, which runs this test. */
+    /** All but .ci/run, which runs this test; beside the checkout, so that what they make is not left in it. */
     private static void runCommands(List<String> lines) throws IOException, InterruptedException {
-        for (String command : commands(lines)) {
-            if (!command.equals(RUN_ALL)) {
-                Process p = new ProcessBuilder("bash", "-c", command).redirectErrorStream(true).start();
-                String said = new String(p.getInputStream().readAllBytes());
-                if (p.waitFor() != 0) {
-                    fault("README.md's command " + command + " fails: " + said);
+        Path folder = Files.createTempDirectory("readme");
+        try {
+            Files.createSymbolicLink(folder.resolve("src"), Path.of("src").toAbsolutePath());
+            for (String command : commands(lines)) {
+                if (!command.equals(RUN_ALL)) {
+                    runCommand(command, folder);
                 }
             }
+        } finally {
+            delete(folder);
+        }
+    }
+
+    private static void runCommand(String command, Path folder) throws IOException, InterruptedException {
+        Process p = new ProcessBuilder("bash", "-c", command).directory(folder.toFile())
+            .redirectErrorStream(true).start();
+        String said = new String(p.getInputStream().readAllBytes());
+        if (p.waitFor() != 0) {
+            fault("README.md's command " + command + " fails: " + said);
         }
     }
 }

@@ -71,7 +71,8 @@ public final class RunAllTest {
             }
             Files.createDirectories(root.resolve("main/.ci"));
             Path script = Files.copy(Path.of(".ci/run"), root.resolve("main/.ci/run"));
-            Process p = new ProcessBuilder(script.toString()).directory(root.toFile()).redirectErrorStream(true).start();
+            Process p = new ProcessBuilder("bash", script.toString()).directory(root.toFile())
+                .redirectErrorStream(true).start();
             String said = new String(p.getInputStream().readAllBytes());
             check(what, exit, p.waitFor(), List.of(run), said);
         } finally {
